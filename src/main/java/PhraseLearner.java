@@ -401,14 +401,7 @@ public final class PhraseLearner {
         return upToEnd & (1L << bits) - 1 | 1L << bits;
     }
 
-    /** How many SIGNS both begin with. */
-    private static int sharedSigns(long row, long other) {
-        int least = Math.min(lengthOf(row), lengthOf(other));
-        long difference = cut(row, 0, least) ^ cut(other, 0, least);
-        return difference == 0 ? least : least - 1 - (63 - Long.numberOfLeadingZeros(difference) >> 1);
-    }
-
-    /** The first bit of a set from a number on; 32 if there is none, which is above all sets here. */
+    /** The first bit of a set from a number (0 to 31) on; 32, above every bound here, if there is none. */
     private static int bitFrom(int set, int from) {
         return Integer.numberOfTrailingZeros(set & -1 << from);
     }
@@ -761,8 +754,12 @@ public final class PhraseLearner {
             if (grammar == null || length < 1 || length > WORD_SIGNS) {
                 return false;
             }
-            for (int end = sharedSigns(held, row) + 1; end <= length; end++) {
-                fillColumn(end, signAt(row, end - 1));
+            int heldLength = lengthOf(held);
+            int least = Math.min(length, heldLength);
+            long difference = held >> 2 * (heldLength - least) ^ row >> 2 * (length - least);
+            int shared = difference == 0 ? least : least - 1 - lengthOf(difference);
+            for (int end = shared + 1; end <= length; end++) {
+                fillColumn(end, (int) (row >> 2 * (length - end)) & 3);
             }
             held = row;
             return (namesFromStart[length] & 1) != 0;
@@ -1116,9 +1113,11 @@ public final class PhraseLearner {
             int found = 0;
             int lower = zs & HALF_SETS - 1;
             int upper = (zs >> HALF & HALF_SETS - 1) + HALF_SETS;
-            for (int y = bitFrom(ys, 0); y < MOST_CONTEXTS; y = bitFrom(ys, y + 1)) {
-                int base = y * 2 * HALF_SETS;
-                found |= makers[base + lower] | makers[base + upper];
+            for (int y = 0; y < contexts; y++) {
+                if ((ys >> y & 1) != 0) {
+                    int base = y * 2 * HALF_SETS;
+                    found |= makers[base + lower] | makers[base + upper];
+                }
             }
             return found;
         }
