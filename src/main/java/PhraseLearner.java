@@ -30,23 +30,22 @@ public final class PhraseLearner {
     private static final int WHETHER_TOLD = -2;
     private static final int SIGNS_OF_LATEST = 10;
 
+    private Grammar grammar = new Grammar();
+    /** A text is read into it, so that a FAULT leaves the GRAMMAR that there is alone. */
+    private Grammar draft = new Grammar();
+    private int faultPlace = NONE;
     private final Tape tape = new Tape();
-    private final TeacherChart teacher = new TeacherChart();
+    private final TeacherChart teacher = new TeacherChart(grammar);
     private final Asked askedWords = new Asked();
     private final Table table = new Table();
     private final Rules rules = new Rules();
     private final Kinds kinds = new Kinds();
     private final LearnerChart learner = new LearnerChart(rules);
-    private final ShortWords shortWords = new ShortWords(rules);
+    private final ShortWords shortWords = new ShortWords(rules, grammar);
     private final Lessons lessons = new Lessons(teacher, table, learner, shortWords);
     private final Speech speech = new Speech();
-    private Grammar grammar = new Grammar();
-    /** A text is read into it, so that a FAULT leaves the GRAMMAR that there is alone. */
-    private Grammar draft = new Grammar();
-    private int faultPlace = NONE;
 
     public PhraseLearner() {
-        takeGrammar();
         startLearner();
     }
 
@@ -73,7 +72,8 @@ public final class PhraseLearner {
         Grammar former = grammar;
         grammar = draft;
         draft = former;
-        takeGrammar();
+        teacher.begin(grammar);
+        shortWords.begin(grammar);
         startLearner();
         return 0;
     }
@@ -305,11 +305,6 @@ public final class PhraseLearner {
             case 2: return learner.nodeSigns(i);
             default: throw new NoSuchElementException("no such what");
         }
-    }
-
-    private void takeGrammar() {
-        teacher.begin(grammar);
-        shortWords.begin(grammar);
     }
 
     private void startLearner() {
@@ -741,8 +736,12 @@ public final class PhraseLearner {
         /** By where a row begins that ends at the column being filled. */
         private final long[] waiting = new long[WORD_SIGNS];
         private final int[] namesFromStart = new int[WORD_SIGNS + 1];
-        private Grammar grammar = null;
+        private Grammar grammar;
         private long held = EMPTY;
+
+        TeacherChart(Grammar grammar) {
+            this.grammar = grammar;
+        }
 
         void begin(Grammar newGrammar) {
             grammar = newGrammar;
@@ -751,7 +750,7 @@ public final class PhraseLearner {
 
         boolean tells(long row) {
             int length = lengthOf(row);
-            if (grammar == null || length < 1 || length > WORD_SIGNS) {
+            if (length < 1 || length > WORD_SIGNS) {
                 return false;
             }
             int heldLength = lengthOf(held);
@@ -1435,7 +1434,7 @@ public final class PhraseLearner {
      */
     private static final class ShortWords {
         private final Rules rules;
-        private Grammar grammar = null;
+        private Grammar grammar;
         /** By length: how many, and where they begin in the rows below. */
         private final int[] amounts = new int[LESSON_SIGNS + 1];
         private final int[] firsts = new int[LESSON_SIGNS + 2];
@@ -1446,8 +1445,9 @@ public final class PhraseLearner {
         private int toldUpTo = 0;
         private int hadUpTo = 0;
 
-        ShortWords(Rules rules) {
+        ShortWords(Rules rules, Grammar grammar) {
             this.rules = rules;
+            this.grammar = grammar;
         }
 
         void begin(Grammar newGrammar) {
@@ -1489,7 +1489,7 @@ public final class PhraseLearner {
         }
 
         long row(int length, int number) {
-            int kinds = grammar == null ? 0 : grammar.signCount();
+            int kinds = grammar.signCount();
             long row = EMPTY << 2 * length;
             int rest = number;
             for (int k = 0; k < length && kinds > 0; k++) {
@@ -1500,9 +1500,6 @@ public final class PhraseLearner {
         }
 
         void reach(int length) {
-            if (grammar == null || grammar.signCount() == 0) {
-                return;
-            }
             for (int size = toldUpTo + 1; size <= length; size++) {
                 tellAll(size);
                 toldUpTo = size;

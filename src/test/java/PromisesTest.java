@@ -112,6 +112,8 @@ public final class PromisesTest {
         faultIs("S>@;", 1, 2);
         faultIs("S>`;", 1, 2);
         faultIs("S>a\u0000;", 1, 3);
+        faultIs("Z>a|AZ;", 0, NONE);
+        faultIs("A>d|ZA;", 0, NONE);
         faultIs("S>ABCD|E;", 0, NONE);
         faultIs("S>ABCD|EF;", 2, 8);
         faultIs("S>ABCD|E;F>a;", 2, 9);
@@ -323,6 +325,14 @@ public final class PromisesTest {
             "a b c d ab bc ca bd abc bca cab abd abca bcab cabd abcab", () -> Check.partsOf(one));
         due("9 as long as there are fewer than 12",
             ". .d a. .bd a.d ab. .abd a.bd ab.d abc. .cabd a.abd", () -> Check.contextsOf(one));
+
+        // all CONTEXTS of ab are there, and only the WORD itself can come
+        PhraseLearner itself = Check.taught("S>ab|cb|ad;");
+        Check.context(itself, "", "b");
+        Check.context(itself, "a", "");
+        due("9 itself next", 2, () -> itself.next(2, NONE));
+        due("9 itself", 1, () -> itself.lesson(2));
+        due("9 itself alone", "1 1 0 -1 -1 -1 2 ab", () -> Check.latestOf(itself));
 
         PhraseLearner palindromes = Check.taught("S>aSa|bSb|a|b;");
         due("9 two parts of one wrong word", 1, () -> palindromes.lesson(3));
@@ -704,6 +714,10 @@ public final class PromisesTest {
         due("27 no longer", Check.NO_SUCH, () -> x.treed(3, 0));
         x.anew();
         due("27 gone with anew()", Check.NO_SUCH, () -> x.treed(0, 0));
+        // A > GC is A's first RULE with a from y, C > BF that of C; F > AF is at F's least split, F > CJ ahead of F > JJ
+        PhraseLearner many = afterLessons(4);
+        due("26 many rules", 11, () -> Check.tree(many, "aaabbb"));
+        due("27 many rules", "A06 G01 C15 B11 F24 A22 B21 J31 F42 C41 J51", () -> Check.treeOf(many, 11));
         PhraseLearner y = Check.taught("S>a|SS;");
         due("26 twenty", 39, () -> Check.tree(y, "aaaaaaaaaaaaaaaaaaaa"));
         due("27 the last one", "A191", () -> {
