@@ -94,7 +94,7 @@ public final class LanguageTest {
             if (lines[i].matches(" {4,8}[a-z][^=;]*\\) (throws [A-Za-z, ]*)?\\{")) {
                 begun = i;
             }
-            if (lines[i].matches(" {4}| {8}}") || lines[i].matches(" {4,8}}")) {
+            if (lines[i].equals("    }") || lines[i].equals("        }")) {
                 int length = i - begun + 1;
                 Check.due("a short method up to line " + (i + 1), true, () -> length <= 60);
                 begun = i;
