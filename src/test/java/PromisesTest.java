@@ -398,8 +398,11 @@ public final class PromisesTest {
         due("10 wrong", 2, () -> x.count(15));
         PhraseLearner full = afterLessons(3);
         due("10 till it is full", 0, () -> full.learn(2, 20));
-        PhraseLearner step = afterLessons(4);
-        due("10 as by steps", Check.askedOf(step), () -> Check.askedOf(x));
+        due("10 as by steps", Check.askedOf(() -> afterLessons(4)), () -> Check.askedOf(() -> {
+            PhraseLearner once = Check.taught(PAIRS);
+            once.learn(6, 20);
+            return once;
+        }));
         due("10 no grammar", 0, () -> new PhraseLearner().learn(6, 20));
     }
 
