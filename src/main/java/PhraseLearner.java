@@ -396,11 +396,6 @@ public final class PhraseLearner {
         return upToEnd & (1L << bits) - 1 | 1L << bits;
     }
 
-    /** The first bit of a set from a number (0 to 31) on; 32, above every bound here, if there is none. */
-    private static int bitFrom(int set, int from) {
-        return Integer.numberOfTrailingZeros(set & -1 << from);
-    }
-
     private static final class Tape {
         private final int[] bytes = new int[MOST_BYTES];
         private int size = 0;
@@ -1149,20 +1144,35 @@ public final class PhraseLearner {
             return NO_SECOND;
         }
 
+        /** The one of a set, of SIGNS or CONTEXTS, ahead of which so many others are. */
         private static int bitAfter(int set, int before) {
-            int bit = bitFrom(set, 0);
-            for (int i = 0; i < before; i++) {
-                bit = bitFrom(set, bit + 1);
+            int passed = 0;
+            for (int bit = 0; bit < MOST_CONTEXTS; bit++) {
+                if ((set >> bit & 1) != 0) {
+                    if (passed == before) {
+                        return bit;
+                    }
+                    passed++;
+                }
             }
-            return bit;
+            return 0;
         }
 
         /** RULES with none but these CONTEXTS in them. */
         int howManyAmong(int set) {
             int found = 0;
-            for (int x = bitFrom(set, 0); x < contexts; x = bitFrom(set, x + 1)) {
-                found += Integer.bitCount(signsOf(x));
-                for (int y = bitFrom(set, 0); y < contexts; y = bitFrom(set, y + 1)) {
+            for (int x = 0; x < contexts; x++) {
+                if ((set >> x & 1) != 0) {
+                    found += Integer.bitCount(signsOf(x)) + howManyOfTwo(x, set);
+                }
+            }
+            return found;
+        }
+
+        private int howManyOfTwo(int x, int set) {
+            int found = 0;
+            for (int y = 0; y < contexts; y++) {
+                if ((set >> y & 1) != 0) {
                     found += Integer.bitCount(seconds(x, y) & set);
                 }
             }
@@ -1254,14 +1264,14 @@ public final class PhraseLearner {
             reached = 1;
             int gone = 0;
             for (int turn = 0; turn < rules.contexts(); turn++) {
-                int x = bitFrom(reached & ~gone, 0);
+                int x = Integer.numberOfTrailingZeros(reached & ~gone);
                 if (x >= rules.contexts()) {
                     break;
                 }
                 gone |= 1 << x;
-                for (int y = bitFrom(made, 0); y < rules.contexts(); y = bitFrom(made, y + 1)) {
+                for (int y = 0; y < rules.contexts(); y++) {
                     int zs = rules.seconds(x, y) & made;
-                    if (zs != 0) {
+                    if ((made >> y & 1) != 0 && zs != 0) {
                         reached |= 1 << y | zs;
                     }
                 }
@@ -1357,10 +1367,10 @@ public final class PhraseLearner {
             for (int middle = start + 1; middle < end; middle++) {
                 int ys = sets[cell(start, middle)];
                 int zs = sets[cell(middle, end)];
-                for (int y = bitFrom(ys, 0); y < MOST_CONTEXTS; y = bitFrom(ys, y + 1)) {
-                    int z = bitFrom(rules.seconds(x, y) & zs, 0);
-                    if (z < MOST_CONTEXTS) {
-                        return middle << 8 | y << 4 | z;
+                for (int y = 0; y < rules.contexts(); y++) {
+                    int seconds = (ys >> y & 1) != 0 ? rules.seconds(x, y) & zs : 0;
+                    if (seconds != 0) {
+                        return middle << 8 | y << 4 | Integer.numberOfTrailingZeros(seconds);
                     }
                 }
             }
@@ -1400,28 +1410,47 @@ public final class PhraseLearner {
             int length = lengthOf(row);
             for (int end = 1; end <= length; end++) {
                 for (int start = end - 1; start >= 0; start--) {
-                    int set = sets[cell(start, end)];
-                    for (int x = bitFrom(set, 0); x < MOST_CONTEXTS; x = bitFrom(set, x + 1)) {
-                        ways[cell(start, end) * MOST_CONTEXTS + x] = end - start == 1 ? 1 : waysOf(x, start, end);
-                    }
+                    countWays(start, end);
                 }
             }
             return (int) ways[cell(0, length) * MOST_CONTEXTS];
+        }
+
+        private void countWays(int start, int end) {
+            int base = cell(start, end) * MOST_CONTEXTS;
+            int set = sets[cell(start, end)];
+            for (int x = 0; x < rules.contexts(); x++) {
+                if ((set >> x & 1) != 0) {
+                    ways[base + x] = end - start == 1 ? 1 : waysOf(x, start, end);
+                }
+            }
         }
 
         private long waysOf(int x, int start, int end) {
             long found = 0;
             for (int middle = start + 1; middle < end; middle++) {
                 int ys = sets[cell(start, middle)];
-                for (int y = bitFrom(ys, 0); y < MOST_CONTEXTS; y = bitFrom(ys, y + 1)) {
-                    int zs = rules.seconds(x, y) & sets[cell(middle, end)];
-                    long first = ways[cell(start, middle) * MOST_CONTEXTS + y];
-                    for (int z = bitFrom(zs, 0); z < MOST_CONTEXTS; z = bitFrom(zs, z + 1)) {
-                        found += first * ways[cell(middle, end) * MOST_CONTEXTS + z];
-                        if (found >= MOST_TREES) {
-                            return MOST_TREES;
-                        }
+                int zs = sets[cell(middle, end)];
+                for (int y = 0; y < rules.contexts(); y++) {
+                    int seconds = (ys >> y & 1) != 0 ? rules.seconds(x, y) & zs : 0;
+                    if (seconds != 0) {
+                        long first = ways[cell(start, middle) * MOST_CONTEXTS + y];
+                        found += first * waysOfAny(seconds, middle, end);
                     }
+                    if (found >= MOST_TREES) {
+                        return MOST_TREES;
+                    }
+                }
+            }
+            return found;
+        }
+
+        private long waysOfAny(int set, int start, int end) {
+            int base = cell(start, end) * MOST_CONTEXTS;
+            long found = 0;
+            for (int x = 0; x < rules.contexts(); x++) {
+                if ((set >> x & 1) != 0) {
+                    found = Math.min(MOST_TREES, found + ways[base + x]);
                 }
             }
             return found;
@@ -1781,12 +1810,14 @@ public final class PhraseLearner {
                     put('a' + sign);
                 }
             }
-            for (int y = bitFrom(lasting, 0); y < MOST_CONTEXTS; y = bitFrom(lasting, y + 1)) {
-                int zs = rules.seconds(x, y) & lasting;
-                for (int z = bitFrom(zs, 0); z < MOST_CONTEXTS; z = bitFrom(zs, z + 1)) {
-                    lead(before, x);
-                    put('A' + y);
-                    put('A' + z);
+            for (int y = 0; y < rules.contexts(); y++) {
+                int zs = (lasting >> y & 1) != 0 ? rules.seconds(x, y) & lasting : 0;
+                for (int z = 0; z < rules.contexts(); z++) {
+                    if ((zs >> z & 1) != 0) {
+                        lead(before, x);
+                        put('A' + y);
+                        put('A' + z);
+                    }
                 }
             }
             if (size > before) {

@@ -22,7 +22,7 @@ public final class LanguageTest {
         "tree(int)int", "treed(int,int)int"};
     private static final String[] FORBIDDEN = {"->", "::", "\\bfinally\\b", "\\btry\\b", "\\bcatch\\b", "\\bassert\\b",
         "\\bsynchronized\\b", "\\bhashCode\\b", "\\bSystem\\.(?!arraycopy)", "Math\\.\\w*Exact", "\\bstatic \\{",
-        "\" ?\\+", "\\+ ?\"", "\\bwhile ?\\(true\\)", "for ?\\(;;\\)", "\\bdouble\\b", "\\bpublic static(?! final)"};
+        "\" ?\\+", "\\+ ?\"", "\\bwhile\\b", "\\bdo\\b", "\\bdouble\\b", "\\bpublic static(?! final)"};
 
     private LanguageTest() {
     }
@@ -88,6 +88,7 @@ public final class LanguageTest {
             Matcher found = Pattern.compile(pattern).matcher(code);
             Check.due("forbidden: " + pattern, "", () -> found.find() ? found.group() : "");
         }
+        loops(code);
         int begun = 0;
         String[] lines = source.split("\n");
         for (int i = 0; i < lines.length; i++) {
@@ -100,6 +101,20 @@ public final class LanguageTest {
                 begun = i;
             }
         }
+    }
+
+    /** Each loop is a counter that goes one way, against a bound. */
+    private static void loops(String code) {
+        Matcher loop = Pattern.compile("\\bfor \\(.*").matcher(code);
+        int count = 0;
+        while (loop.find()) {
+            String line = loop.group();
+            Check.due(line, true, () -> line.matches(
+                "for \\(int (\\w+) = [^;]+; (\\1( \\+ \\w+)? <=? [^;]+; \\1\\+\\+|\\1 >= 0; \\1(--| -= 8))\\) \\{"));
+            count++;
+        }
+        int loops = count;
+        Check.due("there are loops", true, () -> loops > 60);
     }
 
     public static void main(String[] args) throws java.io.IOException {
