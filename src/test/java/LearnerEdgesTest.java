@@ -512,6 +512,14 @@ public final class LearnerEdgesTest {
         due("12 CONTEXTS, 4 SIGNS", 14929920, () -> Check.trees(y, "aaaa"));
         due("12 CONTEXTS, 5 SIGNS", 1000000000, () -> Check.trees(y, "aaaaa"));
         due("12 CONTEXTS, 20 SIGNS", 1000000000, () -> Check.trees(y, "aaaaaaaaaaaaaaaaaaaa"));
+        // b is HAD from D and E, of which A > B .. takes one; what was counted for ab isn't counted for cb
+        PhraseLearner z = withContexts("S>ab|cb|da|bc|cd;", "d.", "b.", "a.", "c.");
+        due("RULES", "A>BD A>CD A>CE A>DC B>a C>c D>b E>b E>d", () -> Check.rulesOf(z));
+        due("with B alone", 1, () -> Check.trees(z, "ab"));
+        due("with C alone", 2, () -> Check.trees(z, "cb"));
+        due("then", 1, () -> Check.trees(z, "bc"));
+        due("and then", 1, () -> Check.trees(z, "cd"));
+        due("TOLD, but no TREE", 0, () -> Check.trees(z, "da"));
     }
 
     public static void main(String[] args) {
