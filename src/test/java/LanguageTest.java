@@ -57,6 +57,21 @@ public final class LanguageTest {
         Check.due("without parameters", 0, () -> constructors[0].getParameterCount());
     }
 
+    /** Every member is there as the document writes it, with its parameters' names and what it throws. */
+    private static void asWritten() throws java.io.IOException {
+        List<String> source = Files.readAllLines(Path.of("src/main/java/PhraseLearner.java"));
+        int members = 0;
+        for (String line : Files.readAllLines(Path.of("../shared/DOC.md"))) {
+            if (line.matches(" {4}public .*;")) {
+                String due = line.contains("(") ? line.replaceAll(";$", " {") : line;
+                Check.due("as written: " + line, true, () -> source.contains(due));
+                members++;
+            }
+        }
+        int found = members;
+        Check.due("members of the document", FACE.length + 2, () -> found);
+    }
+
     /** No class inside may have a method with a name of the face; a class has some twenty fields. */
     private static void classesInside() {
         Set<String> names = new HashSet<>();
@@ -119,6 +134,7 @@ public final class LanguageTest {
 
     public static void main(String[] args) throws java.io.IOException {
         face();
+        asWritten();
         classesInside();
         text();
         Check.end("language");

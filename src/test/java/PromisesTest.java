@@ -32,6 +32,27 @@ public final class PromisesTest {
         return x;
     }
 
+    /** "An object is used for at most 512 calls after it has been made": the last one answers as the first. */
+    private static void wholeLife() {
+        PhraseLearner x = new PhraseLearner();
+        // eight calls a round, 504 in all
+        for (int round = 0; round < 63; round++) {
+            String text = round % 2 == 0 ? "S>aSbS|a|cSd;" : "S>dSc|dc;";
+            due("life teach " + round, 0, () -> Check.teach(x, text));
+            x.learn(6, 20);
+            x.say();
+            due("life trees " + round, round % 2 == 0 ? 0 : 85, () -> Check.trees(x, "ddcc"));
+            x.next(6, NONE);
+            x.anew();
+        }
+        due("life teach, calls 505 and 506", 0, () -> Check.teach(x, PAIRS));
+        due("life learn, call 507", 4, () -> x.learn(6, 20));
+        due("life say, call 508", 70, () -> x.say());
+        due("life said, call 509", (int) 'A', () -> x.said(0));
+        due("life tree, calls 510 and 511", 7, () -> Check.tree(x, "aabb"));
+        due("life treed, call 512", 3, () -> x.treed(2, 2));
+    }
+
     private static void promise1() {
         PhraseLearner x = new PhraseLearner();
         int[] counts = {0, 0, 0, 0, 1, 0, 0, 0, 0, 0, 1, 0, 1, 0, 0, 0, 0};
@@ -734,6 +755,7 @@ public final class PromisesTest {
     }
 
     public static void main(String[] args) {
+        wholeLife();
         promise1();
         promise2();
         promise3And4();
